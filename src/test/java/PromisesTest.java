@@ -392,6 +392,10 @@ public final class PromisesTest {
         y.days(1);
         due("one draw without geese", y.count(7), 1103515245 + 12345);
         due("none taken", y.county(2), 0);
+        y.goose(GOOSE, 9, 9, 0);
+        y.days(1);
+        due("the only one", y.told(0, 2), 0);
+        due("taken", y.county(2), 1);
     }
 
     private static void county() {
@@ -462,6 +466,10 @@ public final class PromisesTest {
         y.rule(0, 41);
         due("not by then", y.holds(0), NONE);
         due("the day is as it was", y.count(1), 0);
+        y.days(4);
+        due("behind 201 days is too late", y.holds(0), NONE);
+        y.rule(0, 40);
+        due("behind 196 days", y.holds(0), 196);
     }
 
     private static void meets() {
