@@ -748,7 +748,9 @@ public final class GooseCounty {
                 geese[g].become(other.geese[g]);
             }
             System.arraycopy(other.need, 0, need, 0, YARDS);
-            System.arraycopy(other.laws, 0, laws, 0, MOST_TEXTS);
+            for (int text = 0; text < other.texts; text++) {
+                laws[text] = other.laws[text];
+            }
             System.arraycopy(other.counting, 0, counting, 0, KEYS);
             many = other.many;
             texts = other.texts;
