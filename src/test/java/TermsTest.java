@@ -555,6 +555,10 @@ public final class TermsTest extends Trial {
         due("and of how many are there then", z.drive(0, 0), 1);
         z.rule(0, 37);
         due("three see 36, four 46", z.drive(0, 0), 1 | 8);
+        GooseCounty w = one(GOOSE, 0, 0, 0);
+        w.goose(MYOPIC, 99, 0, 1);
+        law(w, "look n*10+g");
+        due("beside one more it would see, but that one spoils it", w.drive(0, 0), NONE);
     }
 
     private static GooseCounty lastDay(int kind, int yard) {
