@@ -868,7 +868,7 @@ public final class GooseCounty {
         int yardsThatHold() {
             int set = 0;
             for (int yard = 0; yard < YARDS; yard++) {
-                if (tallyOf(witnesses(yard)) >= need[yard]) {
+                if (wouldHold(yard)) {
                     set |= 1 << yard;
                 }
             }
@@ -898,7 +898,8 @@ public final class GooseCounty {
             Arrays.fill(tallyAt, 0);
             for (int g = 0; g < many; g++) {
                 if (geese[g].yard == yard) {
-                    tallyAt[sees(geese[g], yard, crowd)] += geese[g].tallies();
+                    int seen = within(sees(geese[g], yard, crowd), 0, TOP);
+                    tallyAt[seen] += geese[g].tallies();
                 }
             }
             int tally = 0;

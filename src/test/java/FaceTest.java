@@ -61,6 +61,9 @@ public final class FaceTest {
         for (Class<?> c : inside) {
             due(Modifier.isStatic(c.getModifiers()) && !Modifier.isPublic(c.getModifiers()), c + " inside");
             due(c.getDeclaredFields().length <= 40, c + " has many fields");
+            for (Method m : c.getDeclaredMethods()) {
+                due(!(" " + FACE).contains(" " + m.getName() + "/"), c + " has a method " + m.getName());
+            }
         }
     }
 
@@ -136,11 +139,11 @@ public final class FaceTest {
         x.keep();
         int sum = dearest(x, 0);
         before = counter.getThreadAllocatedBytes(id);
-        for (int i = 1; i < 100; i++) {
+        for (int i = 1; i < 20; i++) {
             sum ^= dearest(x, i);
         }
         made = counter.getThreadAllocatedBytes(id) - before;
-        due(made < 20000, "the dearest calls make " + made + " bytes (" + sum + ")");
+        due(made < 4000, "the dearest calls make " + made + " bytes (" + sum + ")");
     }
 
     public static void main(String[] args) throws Exception {
